@@ -9,6 +9,7 @@ public final class BuildTest {
         promise2();
         promise3();
         promise4();
+        promise4LowNumbersBelow();
         promise4KeepsTags();
         promise5();
         promise6();
@@ -48,6 +49,11 @@ public final class BuildTest {
         CHECK.same("category on ANY", x.category(0, NONE), 0);
         CHECK.same("category on ALL", x.category(1, NONE), 1);
         CHECK.same("range on NUMBER", x.range(2, 1, 2), 0);
+        DrillCount y = new DrillCount();
+        y.document(3);
+        y.axis(0);
+        CHECK.same("a new axis is open: all are hits", y.count(4), 1);
+        CHECK.same("and it is passed", y.doc(0, 3), 1);
     }
 
     private static void promise3() {
@@ -92,6 +98,7 @@ public final class BuildTest {
         CHECK.no("move below one of another axis", x.move(4, 5));
         CHECK.no("move below itself", x.move(1, 1));
         CHECK.no("move below its own", x.move(1, 3));
+        CHECK.no("move below its own, no level would be too deep", x.move(2, 3));
         CHECK.yes("move to where it is", x.move(1, 0));
         CHECK.yes("move from the top to the top", x.move(0, NONE));
         CHECK.yes("move(4, 1)", x.move(4, 1));
@@ -112,6 +119,27 @@ public final class BuildTest {
         CHECK.yes("move(3, 7): 6 is at level 5 again", x.move(3, 7));
         CHECK.same("how many below 2", x.of(2, 4), 0);
         CHECK.same("how many below 7", x.of(7, 4), 5);
+    }
+
+    /** What is below need not have the higher number. */
+    private static void promise4LowNumbersBelow() {
+        DrillCount x = new DrillCount();
+        x.axis(0);
+        x.category(0, NONE);
+        for (int c = 1; c <= 6; c++) {
+            x.category(0, c == 1 ? NONE : c - 1);
+        }
+        x.category(0, NONE);
+        CHECK.same("level of 6", x.of(6, 2), 5);
+        CHECK.yes("move(0, 5)", x.move(0, 5));
+        CHECK.yes("move(6, NONE)", x.move(6, NONE));
+        CHECK.no("0 would be of level 6", x.move(1, 7));
+        CHECK.same("level of 0", x.of(0, 2), 5);
+        x.document(1);
+        x.tag(0, 0, true);
+        CHECK.yes("has(0, 1), by one of level 5", x.has(0, 1));
+        x.tag(0, 0, false);
+        CHECK.no("has(0, 1)", x.has(0, 1));
     }
 
     private static void promise4KeepsTags() {

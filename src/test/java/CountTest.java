@@ -178,6 +178,13 @@ public final class CountTest {
         x.open(0);
         x.select(5, true);
         CHECK.same("sums(4, 0), ALL: of the hits", x.sums(4, 0), 2);
+        x.open(2);
+        x.open(1);
+        x.open(0);
+        x.move(0, 3);
+        CHECK.same("sums(3, 1), 0 is below it", x.sums(3, 1), 0);
+        x.tag(4, 3, true);
+        CHECK.same("sums(3, 1), 4 is in 0 and in itself", x.sums(3, 1), 1);
         CHECK.same("sums(0, 2)", x.sums(0, 2), NONE);
         CHECK.same("sums(0, -1)", x.sums(0, -1), NONE);
         CHECK.same("sums(6, 0)", x.sums(6, 0), NONE);
@@ -194,6 +201,17 @@ public final class CountTest {
         CHECK.same("sets(1, 0)", x.sets(1, 0), 48);
         x.select(3, true);
         CHECK.same("sets(0, 0), its own axis lifted", x.sets(0, 0), 14);
+        x.open(2);
+        x.open(0);
+        x.range(2, 4, 4);
+        CHECK.same("sets(0, 0): only 3 is shown", x.sets(0, 0), 7);
+        x.open(2);
+        x.select(5, true);
+        x.tag(1, 4, false);
+        x.tag(3, 4, false);
+        CHECK.same("sets(1, 0), ALL: of the hits", x.sets(1, 0), 16);
+        x.tag(1, 4, true);
+        CHECK.same("sets(1, 0)", x.sets(1, 0), 0);
         CHECK.same("sets(2, 0)", x.sets(2, 0), 0);
         CHECK.same("sets(2, 1)", x.sets(2, 1), 0);
         CHECK.same("sets(0, 2)", x.sets(0, 2), 0);
@@ -204,6 +222,9 @@ public final class CountTest {
             x.category(0, 3);
         }
         CHECK.same("sets(0, 1), with the 40th", x.sets(0, 1), (1L << 40) - 1 - 1 - 8 - 16 - 32);
+        x.move(1, NONE);
+        x.move(2, NONE);
+        CHECK.same("sets(0, 1), 0 is a leaf", x.sets(0, 1), (1L << 40) - 1 - 8 - 16 - 32);
     }
 
     private static void promise39() {

@@ -182,6 +182,13 @@ public final class LookTest {
         CHECK.same("count(-1)", x.count(-1), NONE);
         x.range(2, 5, 6);
         CHECK.same("count(6) of two axes", x.count(6), 3);
+        DrillCount y = new DrillCount();
+        for (int a = 0; a < 5; a++) {
+            y.axis(2);
+            y.range(a, 0, 0);
+        }
+        CHECK.same("count(6), all axes", y.count(6), 5);
+        CHECK.same("count(7), all axes", y.count(7), 31);
         CHECK.same("count(4)", x.count(4), 0);
     }
 }

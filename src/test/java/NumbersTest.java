@@ -61,6 +61,7 @@ public final class NumbersTest {
     private static void promise28Near() {
         DrillCount x = with(1, 2, 3, 4);
         x.range(0, 4, 4);
+        CHECK.same("bin(0, 2, 1, 0), asked first", x.bin(0, 2, 1, 0), 3);
         bins(x, 2, new int[][] {{1, 2, 2}, {3, 4, 2}});
         x.tag(1, 0, true);
         x.tag(3, 0, true);
@@ -82,6 +83,13 @@ public final class NumbersTest {
         CHECK.same("bins(2, 2)", x.bins(2, 2), NONE);
         CHECK.same("bins(-1, 2)", x.bins(-1, 2), NONE);
         CHECK.same("bins, where none has a number", with().bins(0, 3), 0);
+        DrillCount y = with(1, 2, 3, 4, 5, 5, 5);
+        CHECK.same("bins(0, 4): 1 2, 3 4, 5", y.bins(0, 4), 3);
+        y.remove(0);
+        y.remove(1);
+        CHECK.same("bins(0, 4): 3 4, 5", y.bins(0, 4), 2);
+        y.remove(4);
+        CHECK.same("bins(0, 4): 3, 4, 5", y.bins(0, 4), 3);
     }
 
     private static void promise30() {

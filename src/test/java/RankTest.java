@@ -6,6 +6,7 @@ public final class RankTest {
 
     public static void main(String[] args) {
         promise31();
+        promise31Forty();
         promise32();
         promise32NotNear();
         promise32Ties();
@@ -86,6 +87,16 @@ public final class RankTest {
         row("ALL: of the hits", top(y, 0, 0), 1, 2);
     }
 
+    private static void promise31Forty() {
+        DrillCount x = flat(0, 40);
+        for (int d = 0; d < 40; d++) {
+            tagged(x, d, 39);
+            x.tag(d, 38, d > 0);
+        }
+        row("above 39", top(x, 0, 39), 39);
+        row("above 38", top(x, 0, 38), 39, 38);
+    }
+
     private static void promise32() {
         DrillCount x = flat(0, 3);
         for (int d = 0; d < 6; d++) {
@@ -112,6 +123,9 @@ public final class RankTest {
             x.number(d, 1, d);
         }
         CHECK.same("of equal ones the lower", x.read(0, 1), 3);
+        x.select(1, true);
+        CHECK.same("ANY: its own axis lifted", x.read(0, 1), 3);
+        x.open(0);
         x.range(1, 2, 9);
         CHECK.same("0 and 1 do not count", x.read(0, 1), 4);
         x.drop(1, 0);
@@ -137,6 +151,8 @@ public final class RankTest {
         }
         CHECK.same("as many and lower", low.read(0, 1), 2);
         CHECK.same("as many and not lower", high.read(0, 1), 3);
+        tagged(high, 50, 1);
+        CHECK.same("one more is enough", high.read(0, 1), 3);
     }
 
     private static void promise33() {
@@ -182,6 +198,13 @@ public final class RankTest {
         CHECK.same("path(0, 4)", x.path(0, 4), 7);
         CHECK.same("path(0, 5), the deepest", x.path(0, 5), 8);
         CHECK.same("path(0, 6)", x.path(0, 6), NONE);
+        DrillCount y = flat(1, 3);
+        tagged(y, 1, 0);
+        tagged(y, 1, 0);
+        tagged(y, 1, 1, 2);
+        CHECK.same("ALL", y.path(0, 0), 0);
+        y.select(2, true);
+        CHECK.same("ALL: of the hits", y.path(0, 0), 1);
     }
 
     private static void promise34() {
@@ -204,6 +227,19 @@ public final class RankTest {
         CHECK.same("the only one", x.split(), 0);
         x.select(0, true);
         CHECK.same("all are selected", x.split(), NONE);
+        DrillCount y = flat(0, 2);
+        for (int d = 0; d < 8; d++) {
+            tagged(y, d, 0);
+            y.tag(d, 1, d < 2);
+            y.number(d, 1, d);
+        }
+        y.range(1, 0, 3);
+        CHECK.same("half of four hits, of eight there", y.split(), 1);
+        y.drop(1, 0);
+        y.category(0, NONE);
+        y.tag(7, 2, true);
+        y.select(2, true);
+        CHECK.same("one hit: shown 2 is nearer than 8", y.split(), 1);
         CHECK.same("no category", flat(1, 0).split(), NONE);
     }
 

@@ -41,7 +41,7 @@ public final class RoomTest {
             x.tag(d, (d + 7) % 24, true);
             x.number(d, 2, d);
         }
-        for (int step = 0; step < 20; step++) {
+        for (int step = 0; step < 14; step++) {
             x.select(step % 6, step % 3 > 0);
             x.move(23, step % 2 == 0 ? NONE : 13);
             x.range(2, step, step + 20);

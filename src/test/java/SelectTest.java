@@ -75,6 +75,15 @@ public final class SelectTest {
         CHECK.same("none has 2 and 3", x.count(4), 0);
         x.tag(1, 4, true);
         CHECK.same("one has 2 by what is below it, and 3", x.count(4), 1);
+        DrillCount y = new DrillCount();
+        y.axis(1);
+        y.category(0, NONE);
+        y.category(0, NONE);
+        y.document(1);
+        y.tag(0, 1, true);
+        y.select(0, true);
+        y.select(1, true);
+        CHECK.same("the lowest category counts, too", y.count(4), 0);
     }
 
     private static void promise11() {
