@@ -1,4 +1,6 @@
 import java.util.NoSuchElementException;
+import java.util.function.IntPredicate;
+import java.util.function.IntToLongFunction;
 
 /** Counts answers that are as due and prints those that are not. */
 final class Check {
@@ -12,6 +14,12 @@ final class Check {
 
     private int right;
     private int wrong;
+    private String test = "";
+
+    /** Names the test that the answers from now on belong to. */
+    void within(String name) {
+        test = name.isEmpty() ? "" : name + ": ";
+    }
 
     void same(String call, long got, long due) {
         note(got == due, call + " answered " + got + ", due is " + due);
@@ -33,6 +41,25 @@ final class Check {
         }
     }
 
+    /** A call with each of these numbers answers the same. */
+    void allSame(String call, int[] numbers, IntToLongFunction asked, long due) {
+        for (int number : numbers) {
+            same(call + " for " + number, asked.applyAsLong(number), due);
+        }
+    }
+
+    void allNo(String call, int[] numbers, IntPredicate asked) {
+        for (int number : numbers) {
+            no(call + " for " + number, asked.test(number));
+        }
+    }
+
+    void allNoSuch(String call, int[] numbers, IntToLongFunction asked) {
+        for (int number : numbers) {
+            noSuch(call + " for " + number, () -> asked.applyAsLong(number));
+        }
+    }
+
     void note(boolean asDue, String told) {
         if (asDue) {
             right++;
@@ -40,7 +67,7 @@ final class Check {
         }
         wrong++;
         if (wrong <= MOST_PRINTED) {
-            System.out.println(told);
+            System.out.println(test + told);
         }
     }
 

@@ -1,5 +1,3 @@
-import java.lang.reflect.InvocationTargetException;
-import java.lang.reflect.Method;
 import java.util.ArrayList;
 import java.util.List;
 import java.util.Random;
@@ -9,7 +7,6 @@ public final class ModelTest {
 
     private static final int NONE = -1;
     private static final int RUNS = 3000;
-    private static final int CALLS = 512;
     private static final int[] WILD = {
         -1, -2, 0, 1, 2, 3, 5, 6, 8, 9, 10, 12, 13, 39, 40, 41, 63, 64, 65, 99, 100, -999, 999,
         -1000, 1000, Integer.MIN_VALUE, Integer.MAX_VALUE, Integer.MIN_VALUE + 1,
@@ -47,44 +44,28 @@ public final class ModelTest {
         numbers = 1 + random.nextInt(run % 2 == 0 ? 8 : 999);
     }
 
-    public static void main(String[] args) throws ReflectiveOperationException {
+    public static void main(String[] args) {
         Check check = new Check();
-        List<Method> drawn = new ArrayList<>();
-        List<Method> twins = new ArrayList<>();
-        List<String[]> rows = new ArrayList<>();
+        List<String[]> drawn = new ArrayList<>();
         for (String line : TABLE) {
             String[] row = line.split(" ");
-            Method method = find(DrillCount.class, row[0]);
-            Method twin = find(Model.class, row[0]);
-            if (method.getParameterCount() != row.length - 2) {
+            if (Script.find(DrillCount.class, row[0]).getParameterCount() != row.length - 2) {
                 throw new IllegalStateException("the table is wrong at " + row[0]);
             }
             for (int i = 0; i < Integer.parseInt(row[1]); i++) {
-                drawn.add(method);
-                twins.add(twin);
-                rows.add(row);
+                drawn.add(row);
             }
         }
         for (int run = 0; run < RUNS; run++) {
             ModelTest test = new ModelTest(run);
             test.prepare();
-            for (int call = test.prepared; call < CALLS; call++) {
-                int pick = test.random.nextInt(drawn.size());
-                if (!test.same(check, run, drawn.get(pick), twins.get(pick), rows.get(pick))) {
+            for (int call = test.prepared; call < Script.MOST_CALLS; call++) {
+                if (!test.same(check, run, drawn.get(test.random.nextInt(drawn.size())))) {
                     break;
                 }
             }
         }
         check.end("ModelTest");
-    }
-
-    private static Method find(Class<?> in, String name) {
-        for (Method m : in.getMethods()) {
-            if (m.getName().equals(name)) {
-                return m;
-            }
-        }
-        throw new IllegalStateException("no method " + name);
     }
 
     private int prepared;
@@ -133,17 +114,14 @@ public final class ModelTest {
         prepared += tags + 2;
     }
 
-    private boolean same(Check check, int run, Method method, Method twin, String[] row)
-            throws IllegalAccessException {
+    private boolean same(Check check, int run, String[] row) {
         Object[] args = new Object[row.length - 2];
-        StringBuilder call = new StringBuilder(row[0]);
         for (int i = 0; i < args.length; i++) {
             args[i] = draw(row[i + 2]);
-            call.append(i == 0 ? "(" : ", ").append(args[i]);
         }
-        call.append(args.length == 0 ? "()" : ")");
-        String got = answer(method, asked, args);
-        String due = answer(twin, model, args);
+        Script.Call call = new Script.Call(row[0], args);
+        String got = call.on(asked);
+        String due = call.on(model);
         boolean right = got.equals(due);
         told.append(call).append(" = ").append(due).append('\n');
         check.note(right, "run " + run + ", " + call + " answered " + got + ", due is " + due);
@@ -151,15 +129,6 @@ public final class ModelTest {
             System.out.println(told);
         }
         return right;
-    }
-
-    private static String answer(Method method, Object on, Object[] args)
-            throws IllegalAccessException {
-        try {
-            return String.valueOf(method.invoke(on, args));
-        } catch (InvocationTargetException e) {
-            return "throws." + e.getCause().getClass().getSimpleName();
-        }
     }
 
     private Object draw(String what) {
