@@ -415,6 +415,36 @@ public final class EdgeBuildTest {
         CHECK.yes("has(0, 1)", x.has(0, 1));
     }
 
+    @Edge(promise = 4, words = "one would be of LEVEL 6")
+    private static void moveWithTheFirstAsTheDeepest() {
+        DrillCount x = Made.axes(0);
+        Made.flat(x, 0, 1);
+        Made.chain(x, 0, 5);
+        Made.flat(x, 0, 1);
+        CHECK.yes("0 below 5", x.move(0, 5));
+        CHECK.same("level of 0", x.of(0, 2), 5);
+        CHECK.no("0 would be of level 6", x.move(1, 6));
+        CHECK.same("level of 0 stays", x.of(0, 2), 5);
+        CHECK.yes("0 comes to level 5", x.move(2, 6));
+        CHECK.same("level of 0", x.of(0, 2), 5);
+    }
+
+    @Edge(promise = 4, words = "with all BELOW it")
+    private static void moveChangesWhoPasses() {
+        for (int kind = 0; kind <= 1; kind++) {
+            DrillCount x = Made.axes(kind);
+            Made.chain(x, 0, 6);
+            Made.flat(x, 0, 1);
+            Made.document(x, 1, 5);
+            x.select(6, true);
+            CHECK.same("not yet", x.count(4), 0);
+            CHECK.yes("move(4, 6)", x.move(4, 6));
+            CHECK.same("it has 6 now", x.count(4), 1);
+            CHECK.yes("move(5, NONE)", x.move(5, NONE));
+            CHECK.same("no more", x.count(4), 0);
+        }
+    }
+
     @Edge(promise = 4, words = "comes below another one of its axis")
     private static void moveToWhereItIs() {
         DrillCount x = Made.axes(0);
@@ -453,15 +483,24 @@ public final class EdgeBuildTest {
     @Edge(promise = 5, words = "SCORE, 0 to 99")
     private static void scoresZeroToNinetyNine() {
         DrillCount x = new DrillCount();
-        CHECK.allSame("score, on an empty one", Made.outside(0, 99), x::document, NONE);
-        CHECK.same("count(2)", x.count(2), 0);
+        CHECK.same("score -1", x.document(-1), NONE);
         CHECK.same("score 0", x.document(0), 0);
+        CHECK.same("score 100", x.document(100), NONE);
         CHECK.same("score 99", x.document(99), 1);
         CHECK.same("its score", x.doc(0, 0), 0);
         CHECK.same("its score", x.doc(1, 0), 99);
-        CHECK.allSame("score, with two", Made.outside(0, 99), x::document, NONE);
-        CHECK.same("count(2)", x.count(2), 2);
-        CHECK.same("count(3)", x.count(3), 2);
+    }
+
+    @Edge(promise = 5, words = "NONE: others")
+    private static void otherScoresAreRefused() {
+        DrillCount x = new DrillCount();
+        CHECK.allSame("score, on an empty one", Made.outside(0, 99), x::document, NONE);
+        CHECK.same("count(2)", x.count(2), 0);
+        Made.documents(x, 39);
+        CHECK.allSame("score, with 39", Made.outside(0, 99), x::document, NONE);
+        CHECK.same("count(2)", x.count(2), 39);
+        CHECK.same("count(3)", x.count(3), 39);
+        CHECK.same("the 40th", x.document(50), 39);
     }
 
     @Edge(promise = 5, words = "40 have been")
@@ -678,6 +717,18 @@ public final class EdgeBuildTest {
         CHECK.same("one number is there", x.bin(0, 1, 0, 2), 1);
     }
 
+    @Edge(promise = 7, words = "if its number is in any of the RANGES (ends, too)")
+    private static void numberChangesWhoPasses() {
+        DrillCount x = Made.numbered(4);
+        x.range(0, 5, 6);
+        int[] numbers = {4, 5, 6, 7};
+        int[] hits = {0, 1, 1, 0};
+        for (int i = 0; i < numbers.length; i++) {
+            x.number(0, 0, numbers[i]);
+            CHECK.same("hits with " + numbers[i], x.count(4), hits[i]);
+        }
+    }
+
     // ---- 8: unnumber
 
     @Edge(promise = 8, words = "it has none")
@@ -731,6 +782,21 @@ public final class EdgeBuildTest {
         CHECK.no("it had one", x.unnumber(0, 0));
         CHECK.same("count(3)", x.count(3), 1);
         CHECK.yes("the other one", x.unnumber(1, 0));
+    }
+
+    @Edge(promise = 8, words = "or if it is MISSING there and MISSING is SELECTED")
+    private static void unnumberChangesWhoPasses() {
+        DrillCount x = Made.numbered(5);
+        x.range(0, 5, 5);
+        CHECK.same("in the range", x.count(4), 1);
+        x.unnumber(0, 0);
+        CHECK.same("without a number", x.count(4), 0);
+        x.missing(0, true);
+        CHECK.same("MISSING is selected", x.count(4), 1);
+        x.number(0, 0, 6);
+        CHECK.same("a number beside the range", x.count(4), 0);
+        x.unnumber(0, 0);
+        CHECK.same("without a number again", x.count(4), 1);
     }
 
     // ---- 9: remove

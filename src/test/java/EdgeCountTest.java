@@ -365,6 +365,18 @@ public final class EdgeCountTest {
         CHECK.same("nor below it", x.sums(5, 1), 0);
     }
 
+    @Edge(promise = 26, words = "those right below it and its OWN")
+    private static void twiceWithTheFirstAndTheLastBelow() {
+        DrillCount x = Made.axes(0);
+        Made.flat(x, 0, 40);
+        Made.document(x, 50, 0, 39);
+        x.move(0, 20);
+        CHECK.same("in 0 only", x.sums(20, 1), 0);
+        x.move(39, 20);
+        CHECK.same("in 0 and 39", x.sums(20, 1), 1);
+        CHECK.same("none of its own", x.sums(20, 0), 0);
+    }
+
     // ---- 27: sets
 
     @Edge(promise = 27, words = "0: others")

@@ -192,6 +192,26 @@ public final class EdgeLookTest {
         CHECK.same("not there", x.doc(0, 3), NONE);
     }
 
+    @Edge(promise = 17, words = "PASSED of a DOCUMENT: axes that it PASSES (bits).")
+    private static void docPassedAxisByAxis() {
+        for (int axis = 0; axis < 5; axis++) {
+            DrillCount x = Made.axes(0, 1, 2, 1, 2);
+            x.document(1);
+            Made.flat(x, 0, 1);
+            Made.flat(x, 1, 1);
+            Made.flat(x, 3, 1);
+            int[] categories = {0, 1, NONE, 2, NONE};
+            if (categories[axis] == NONE) {
+                x.range(axis, 0, 0);
+            } else {
+                x.select(categories[axis], true);
+            }
+            CHECK.same("all but axis " + axis, x.doc(0, 3), 31 - (1 << axis));
+            x.missing(axis, true);
+            CHECK.same("ALL asks for both", x.doc(0, 3), axis % 2 == 1 ? 31 - (1 << axis) : 31);
+        }
+    }
+
     @Edge(promise = 17, words = "4: place in ORDER of those THERE (NONE: not THERE)")
     private static void docPlaces() {
         DrillCount x = Made.full();
@@ -434,6 +454,20 @@ public final class EdgeLookTest {
         x.open(4);
         CHECK.same("bits", x.count(7), 14);
         CHECK.same("ranges", x.count(6), 9);
+    }
+
+    @Edge(promise = 42, words = "An object is used for at most 512 calls after it has been made")
+    private static void countUpToTheLastOf512Calls() {
+        DrillCount x = Made.full();
+        for (int call = 166; call < 512; call++) {
+            x.missing(call % 5, call / 5 % 2 == 1);
+        }
+        CHECK.same("the 512th call", x.count(8), 16);
+        DrillCount y = Made.axes(0);
+        for (int call = 2; call <= 511; call++) {
+            CHECK.yes("call " + call, y.missing(0, call % 2 == 0));
+        }
+        CHECK.yes("the 512th call", y.missing(0, true));
     }
 
     @Edge(promise = 42, words = "8: what can be taken BACK")

@@ -112,6 +112,9 @@ public final class EdgeNumbersTest {
     @Edge(promise = 28, words = "each with all that have it")
     private static void binsKeepEqualOnesTogether() {
         bins(equal(40, 999), 8, bin(999, 999, 40));
+        bins(equal(2, 7), 2, bin(7, 7, 2));
+        bins(equal(2, 7), 8, bin(7, 7, 2));
+        bins(Made.numbered(1, 7, 7), 3, bin(1, 1, 1), bin(7, 7, 2));
         bins(Made.numbered(1, 1, 1, 2), 2, bin(1, 1, 3), bin(2, 2, 1));
         bins(Made.numbered(1, 2, 2, 2), 2, bin(1, 2, 4));
         bins(Made.numbered(1, 2, 2, 3), 2, bin(1, 2, 3), bin(3, 3, 1));

@@ -152,6 +152,10 @@ public final class EdgeRankTest {
         }
         CHECK.same("20 against 20, 0 is lower", low.read(0, 1), 20);
         CHECK.same("20 against 20, 1 is not", high.read(0, 1), 21);
+        low.remove(39);
+        high.remove(39);
+        CHECK.same("20 against 19", low.read(0, 1), 20);
+        CHECK.same("20 against 19", high.read(0, 1), 20);
         DrillCount all = flat(0, 3);
         Made.document(all, 50, 0, 1, 2);
         CHECK.same("all equal at the end", all.read(0, 1), 1);
@@ -173,6 +177,23 @@ public final class EdgeRankTest {
         CHECK.same("nine of ten, 0 is the lowest", y.read(0, 9), 3);
     }
 
+    @Edge(promise = 32, words = "if each of them has more than any other CATEGORY of the axis has together with all that are not read yet")
+    private static void readTillEachIsFarEnoughAhead() {
+        DrillCount x = flat(0, 3);
+        for (int d = 0; d < 7; d++) {
+            Made.document(x, 50, 1, 2);
+        }
+        CHECK.same("4 against 3", x.read(0, 2), 4);
+        Made.document(x, 50, 1, 2);
+        CHECK.same("4 against 4 is not more, 5 against 3 is", x.read(0, 2), 5);
+        x.remove(7);
+        for (int d = 3; d < 7; d++) {
+            x.tag(d, 2, false);
+        }
+        CHECK.same("2 has three, two are not read yet", x.read(0, 2), 5);
+        CHECK.same("1 alone has four, three are not", x.read(0, 1), 5);
+    }
+
     @Edge(promise = 32, words = "a CATEGORY has as many so far as of those read SHOWN would count")
     private static void readCountsWhatShownWould() {
         for (int kind = 0; kind <= 1; kind++) {
@@ -190,6 +211,26 @@ public final class EdgeRankTest {
             x.range(1, 1, 1);
             CHECK.same("only 2 and 3 count, all are read", x.read(0, 1), 3);
         }
+    }
+
+    @Edge(promise = 32, words = "the k with the most so far (of equal ones the lowest")
+    private static void readWhereOthersCatchUp() {
+        DrillCount x = flat(0, 3);
+        Made.document(x, 90, 2);
+        Made.document(x, 80, 1);
+        Made.document(x, 70, 0);
+        CHECK.same("all have one in the end", x.read(0, 1), 3);
+        CHECK.same("two of them", x.read(0, 2), 3);
+        Made.document(x, 60, 0);
+        CHECK.same("0 has two, 1 and 2 have one", x.read(0, 1), 4);
+        Made.document(x, 95, 0);
+        CHECK.same("0 has one more from the start", x.read(0, 1), 4);
+        DrillCount y = flat(0, 3);
+        Made.document(y, 90, 2);
+        Made.document(y, 80, 1);
+        Made.document(y, 70, 1);
+        Made.document(y, 60, 1);
+        CHECK.same("2 leads, 1 catches up and is lower", y.read(0, 1), 3);
     }
 
     @Edge(promise = 32, words = "those THERE are read in ORDER")
@@ -449,6 +490,45 @@ public final class EdgeRankTest {
         CHECK.same("how many", x.cover(0, NONE), 2);
         CHECK.same("the first", x.cover(0, 0), 1);
         CHECK.same("the second", x.cover(0, 1), 11);
+    }
+
+    @Edge(promise = 35, words = "the fewest CATEGORIES of it")
+    private static void coverIsTheFewest() {
+        DrillCount x = flat(0, 3);
+        int[][] tags = {{0, 1}, {0, 2}, {0, 1}, {0, 2}, {1}, {2}};
+        for (int[] one : tags) {
+            Made.document(x, 50, one);
+        }
+        CHECK.same("not by the one that most have", x.cover(0, NONE), 2);
+        CHECK.same("the first", x.cover(0, 0), 1);
+        CHECK.same("the second", x.cover(0, 1), 2);
+        Made.document(x, 50, 0);
+        CHECK.same("one has it alone", x.cover(0, NONE), 3);
+        CHECK.same("the first", x.cover(0, 0), 0);
+    }
+
+    @Edge(promise = 35, words = "so that each HIT that is not MISSING there HAVEs one of them")
+    private static void coverOfHitsThatAreNotMissing() {
+        DrillCount x = Made.axes(0, 2);
+        Made.flat(x, 0, 3);
+        for (int d = 0; d < 4; d++) {
+            x.document(50);
+            x.number(d, 1, d);
+            if (d < 3) {
+                x.tag(d, d, true);
+            }
+        }
+        CHECK.same("three, one is missing", x.cover(0, NONE), 3);
+        x.range(1, 1, 9);
+        CHECK.same("two are hits that are not missing", x.cover(0, NONE), 2);
+        CHECK.same("the first", x.cover(0, 0), 1);
+        x.select(2, true);
+        CHECK.same("its own axis is not lifted", x.cover(0, NONE), 1);
+        CHECK.same("the first", x.cover(0, 0), 2);
+        x.open(0);
+        x.drop(1, 0);
+        x.range(1, 3, 3);
+        CHECK.same("the only hit is missing", x.cover(0, NONE), 0);
     }
 
     // ---- 36: both

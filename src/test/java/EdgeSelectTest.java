@@ -124,6 +124,16 @@ public final class EdgeSelectTest {
         CHECK.same("it has all again", x.count(4), 1);
     }
 
+    @Edge(promise = 10, words = "A DOCUMENT PASSES an axis, if that is OPEN")
+    private static void passesWhatIsOpen() {
+        DrillCount x = three();
+        CHECK.same("one that has nothing passes all", x.doc(1, 3), 7);
+        x.select(0, true);
+        CHECK.same("not the one that is not open", x.doc(1, 3), 6);
+        x.select(0, false);
+        CHECK.same("all, when it is open again", x.doc(1, 3), 7);
+    }
+
     // ---- 11: range
 
     @Edge(promise = 11, words = "any low no more than a high")

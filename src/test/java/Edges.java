@@ -7,10 +7,7 @@ import java.util.ArrayList;
 import java.util.Comparator;
 import java.util.List;
 
-/**
- * Runs the tests of a class that are marked as an Edge. With -Dtold=true it prints which test
- * stands for which words of the document.
- */
+/** Runs the tests of a class that are marked as an Edge. */
 final class Edges {
 
     private static final String LAST_OF_TERMS = "## Promise 1:";
@@ -28,7 +25,7 @@ final class Edges {
     /** Runs them all; each of these promises has to have a test. */
     static void run(Class<?> tests, Check check, int... promises) throws IOException {
         Edges edges = new Edges(tests, check);
-        List<Method> all = edges.marked();
+        List<Method> all = marked(tests);
         for (int promise : promises) {
             check.yes("promise " + promise + " has a test in " + tests.getName(),
                     all.stream().anyMatch(m -> m.getAnnotation(Edge.class).promise() == promise));
@@ -39,7 +36,8 @@ final class Edges {
         check.end(tests.getName() + ", " + all.size() + " tests");
     }
 
-    private List<Method> marked() {
+    /** The tests of a class, by promises, then by names. */
+    static List<Method> marked(Class<?> tests) {
         List<Method> all = new ArrayList<>();
         for (Method method : tests.getDeclaredMethods()) {
             if (method.isAnnotationPresent(Edge.class)) {
@@ -56,9 +54,6 @@ final class Edges {
         Edge edge = method.getAnnotation(Edge.class);
         String name = tests.getName() + "." + method.getName();
         check.yes(name + " quotes the document: " + edge.words(), isQuoted(edge));
-        if (Boolean.getBoolean("told")) {
-            System.out.println("| " + edge.promise() + " | " + edge.words() + " | " + name + " |");
-        }
         check.within(name);
         try {
             method.setAccessible(true);
@@ -86,10 +81,9 @@ final class Edges {
         return promise.contains(edge.words()) || document.substring(0, terms).contains(edge.words());
     }
 
-    /** The document in one line; null, if it does not lie where .ci/run says. */
-    private static String readDocument() throws IOException {
-        String told = System.getenv("DRILLCOUNT_DOC");
-        Path path = Path.of(told != null ? told : "../shared/DOC.md");
+    /** The document in one line; null, if it does not lie beside the project. */
+    static String readDocument() throws IOException {
+        Path path = Path.of("../shared/DOC.md");
         if (!Files.isReadable(path)) {
             return null;
         }

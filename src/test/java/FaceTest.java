@@ -104,9 +104,7 @@ public final class FaceTest {
 
     /** What the language rules forbid and a look at the text can find. */
     private static void source() throws IOException {
-        String told = System.getenv("DRILLCOUNT_SOURCE");
-        Path path = Path.of(told != null ? told : "src/main/java/DrillCount.java");
-        String text = Files.readString(path);
+        String text = Files.readString(Path.of("src/main/java/DrillCount.java"));
         String[] forbidden = {
             "->", "::", "catch", "finally", "synchronized", "assert ", "Exact(", "package ",
             "Math.random", "System.", "Thread", "double", "float", "static {",

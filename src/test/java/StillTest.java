@@ -3,8 +3,8 @@ import java.util.List;
 
 /**
  * What is refused changes nothing that other calls show, and no question changes anything. An
- * object that was asked for what it must refuse is held against a twin that was not: in all
- * questions, in what BACK gives, and in what can be done to it next.
+ * object that was asked for what it must refuse is held against a Model that was not: in all
+ * questions, in what is selected, in what BACK gives, and in what can be done to it next.
  */
 public final class StillTest {
 
@@ -36,11 +36,12 @@ public final class StillTest {
         for (int from = 0; from < questions.size(); from += most) {
             pictures.add(questions.subList(from, Math.min(from + most, questions.size())));
         }
+        pictures.add(whatIsSelected());
         pictures.add(whatComesNext());
         for (List<Script.Call> picture : pictures) {
             CHECK.yes("an object is used for 512 calls",
                     state.size() + GROUP + picture.size() <= Script.MOST_CALLS);
-            due.add(answers(state.on(new DrillCount()), picture));
+            due.add(answers(state.on(new Model()), picture));
         }
     }
 
@@ -92,7 +93,7 @@ public final class StillTest {
         }
     }
 
-    private static List<String> answers(DrillCount x, List<Script.Call> calls) {
+    private static List<String> answers(Object x, List<Script.Call> calls) {
         List<String> all = new ArrayList<>();
         for (Script.Call call : calls) {
             all.add(call.on(x));
@@ -232,7 +233,24 @@ public final class StillTest {
         }
     }
 
-    /** What can be taken back, the ranges one by one, and the numbers that are told next. */
+    /** What is selected, taken away bit by bit. */
+    private static List<Script.Call> whatIsSelected() {
+        List<Script.Call> all = new ArrayList<>();
+        for (int axis = 0; axis < 5; axis++) {
+            all.add(new Script.Call("missing", axis, false));
+            for (int i = 2; i >= 0; i--) {
+                all.add(new Script.Call("count", 4));
+                all.add(new Script.Call("drop", axis, i));
+            }
+        }
+        for (int c = 0; c < 40; c++) {
+            all.add(new Script.Call("select", c, false));
+            all.add(new Script.Call("count", 7));
+        }
+        return all;
+    }
+
+    /** What can be taken back, and the numbers that are told next. */
     private static List<Script.Call> whatComesNext() {
         List<Script.Call> all = new ArrayList<>();
         for (int step = 0; step < 17; step++) {
