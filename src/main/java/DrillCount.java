@@ -471,13 +471,13 @@ public final class DrillCount {
     public int split() {
         int hits = Long.bitCount(sieve.hits());
         int best = NONE;
-        int least = Integer.MAX_VALUE;
+        int least = 0;
         for (int c = 0; c < forest.size; c++) {
             if (inSet(sieve.axes[forest.axisOf[c]].chosen.categories, c)) {
                 continue;
             }
             int off = Math.abs(2 * sieve.showing(c) - hits);
-            if (off < least) {
+            if (best == NONE || off < least) {
                 least = off;
                 best = c;
             }

@@ -41,6 +41,13 @@ final class Check {
         }
     }
 
+    /** A call with 0, 1, 2 and so on answers these, one by one. */
+    void row(String call, IntToLongFunction asked, long... due) {
+        for (int i = 0; i < due.length; i++) {
+            same(call + " for " + i, asked.applyAsLong(i), due[i]);
+        }
+    }
+
     /** A call with each of these numbers answers the same. */
     void allSame(String call, int[] numbers, IntToLongFunction asked, long due) {
         for (int number : numbers) {

@@ -3,25 +3,28 @@ import java.lang.reflect.Method;
 import java.nio.file.Files;
 import java.nio.file.Path;
 import java.util.ArrayList;
+import java.util.Arrays;
 import java.util.Comparator;
 import java.util.List;
 import java.util.regex.Matcher;
 import java.util.regex.Pattern;
 
 /**
- * EDGES.md tells which test stands for which words of the document, and each thing that a promise
- * refuses has a test. With the argument 'write' it writes EDGES.md anew.
+ * EDGES.md tells which test stands for which words of the document; no word of the document is
+ * without a test that quotes it, and each thing that a promise refuses has a test of that promise.
+ * With the argument 'write' it writes EDGES.md anew.
  */
 public final class EdgeListTest {
 
     private static final Class<?>[] TESTS = {
         EdgeBuildTest.class, EdgeSelectTest.class, EdgeLookTest.class, EdgeCountTest.class,
-        EdgeNumbersTest.class, EdgeRankTest.class,
+        EdgeNumbersTest.class, EdgeRankTest.class, SentenceTermsTest.class,
+        SentencePromiseTest.class,
     };
-    private static final int PROMISES = 42;
     private static final Path LIST = Path.of("EDGES.md");
     private static final String HEAD = "# Which test stands for which words of the document\n\n"
-            + "Written by `EdgeListTest write`; README.md tells how.\n\n"
+            + "Written by `EdgeListTest write`; README.md tells how. Promise 0: what is said outside"
+            + " the promises.\n\n"
             + "| promise | words | test |\n|---|---|---|\n";
     /** What a promise answers for what it does not take: 'NONE: others, of another axis.' */
     private static final Pattern REFUSED =
@@ -39,9 +42,15 @@ public final class EdgeListTest {
             Files.writeString(LIST, list(all));
         }
         CHECK.yes("EDGES.md tells all tests", Files.readString(LIST).equals(list(all)));
-        String document = Edges.readDocument();
-        for (int promise = 1; promise <= PROMISES; promise++) {
-            allRefusedAreTested(all, promise, document);
+        Document document = Document.read();
+        for (int promise = Document.OUTSIDE; promise <= Document.PROMISES; promise++) {
+            List<String> quoted = quotes(all, promise);
+            CHECK.yes("promise " + promise + " has a test", !quoted.isEmpty());
+            if (document != null) {
+                everyWordIsQuoted(promise, document.text(promise),
+                        promise == Document.OUTSIDE ? quotes(all) : quoted);
+                allRefusedAreTested(promise, document.text(promise), quoted);
+            }
         }
         CHECK.end("EdgeListTest");
     }
@@ -61,24 +70,37 @@ public final class EdgeListTest {
         return text.toString();
     }
 
-    private static void allRefusedAreTested(List<Method> all, int promise, String document) {
-        StringBuilder quoted = new StringBuilder();
-        for (Method test : all) {
-            if (promiseOf(test) == promise) {
-                quoted.append(test.getAnnotation(Edge.class).words()).append('\n');
+    private static List<String> quotes(List<Method> tests) {
+        List<String> quoted = new ArrayList<>();
+        for (Method test : tests) {
+            quoted.add(test.getAnnotation(Edge.class).words());
+        }
+        return quoted;
+    }
+
+    private static List<String> quotes(List<Method> all, int promise) {
+        return quotes(all.stream().filter(test -> promiseOf(test) == promise).toList());
+    }
+
+    private static void everyWordIsQuoted(int promise, String text, List<String> quoted) {
+        char[] left = text.toCharArray();
+        for (String words : quoted) {
+            for (int at = text.indexOf(words); at >= 0; at = text.indexOf(words, at + 1)) {
+                Arrays.fill(left, at, at + words.length(), '\n');
             }
         }
-        CHECK.yes("promise " + promise + " has a test", quoted.length() > 0);
-        if (document == null) {
-            return;
+        for (String piece : new String(left).split("\n+")) {
+            boolean saysNothing = piece.chars().noneMatch(Character::isLetterOrDigit);
+            CHECK.note(saysNothing, "promise " + promise + " has no test of '" + piece + "'");
         }
-        int from = document.indexOf("## Promise " + promise + ":");
-        int end = document.indexOf("## ", from + 3);
-        Matcher refused = REFUSED.matcher(document.substring(from, end));
+    }
+
+    private static void allRefusedAreTested(int promise, String text, List<String> quoted) {
+        Matcher refused = REFUSED.matcher(text);
         while (refused.find()) {
             for (String piece : refused.group(1).split(", ")) {
                 CHECK.yes("promise " + promise + " has a test of '" + piece + "'",
-                        quoted.indexOf(piece) >= 0);
+                        quoted.stream().anyMatch(words -> words.contains(piece)));
             }
         }
     }

@@ -1,8 +1,6 @@
 import java.io.IOException;
 import java.lang.reflect.InvocationTargetException;
 import java.lang.reflect.Method;
-import java.nio.file.Files;
-import java.nio.file.Path;
 import java.util.ArrayList;
 import java.util.Comparator;
 import java.util.List;
@@ -10,16 +8,14 @@ import java.util.List;
 /** Runs the tests of a class that are marked as an Edge. */
 final class Edges {
 
-    private static final String LAST_OF_TERMS = "## Promise 1:";
-
     private final Class<?> tests;
     private final Check check;
-    private final String document;
+    private final Document document;
 
     private Edges(Class<?> tests, Check check) throws IOException {
         this.tests = tests;
         this.check = check;
-        this.document = readDocument();
+        this.document = Document.read();
     }
 
     /** Runs them all; each of these promises has to have a test. */
@@ -66,27 +62,8 @@ final class Edges {
         check.within("");
     }
 
-    /** Whether the words stand among the terms or in the promise itself. */
+    /** Whether the words stand in the promise itself or outside of all. */
     private boolean isQuoted(Edge edge) {
-        if (document == null) {
-            return true;
-        }
-        int terms = document.indexOf(LAST_OF_TERMS);
-        int from = document.indexOf("## Promise " + edge.promise() + ":");
-        if (terms < 0 || from < 0) {
-            return false;
-        }
-        int end = document.indexOf("## ", from + 3);
-        String promise = document.substring(from, end < 0 ? document.length() : end);
-        return promise.contains(edge.words()) || document.substring(0, terms).contains(edge.words());
-    }
-
-    /** The document in one line; null, if it does not lie beside the project. */
-    static String readDocument() throws IOException {
-        Path path = Path.of("../shared/DOC.md");
-        if (!Files.isReadable(path)) {
-            return null;
-        }
-        return Files.readString(path).replaceAll("\\s+", " ");
+        return document == null || document.says(edge.promise(), edge.words());
     }
 }

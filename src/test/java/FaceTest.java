@@ -34,6 +34,7 @@ public final class FaceTest {
         methods();
         nested();
         source();
+        wordForWord();
         CHECK.end("FaceTest");
     }
 
@@ -121,5 +122,22 @@ public final class FaceTest {
                 CHECK.note(false, "a sign beyond 126 stands in the source at " + i);
             }
         }
+    }
+
+    /** Each line of the document's face stands in the source, with the names of what it takes. */
+    private static void wordForWord() throws IOException {
+        Document document = Document.read();
+        if (document == null) {
+            return;
+        }
+        String text = Files.readString(Path.of("src/main/java/DrillCount.java"));
+        int calls = 0;
+        for (String line : document.face()) {
+            boolean isCall = line.contains("(") && line.endsWith(";");
+            calls += isCall ? 1 : 0;
+            String due = isCall ? line.substring(0, line.length() - 1) + " {" : line;
+            CHECK.yes("the source has '" + due + "'", line.startsWith("```") || text.contains(due));
+        }
+        CHECK.same("the constructor and the methods of the document", calls, FACE.length + 1);
     }
 }

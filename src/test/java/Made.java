@@ -92,4 +92,30 @@ final class Made {
         }
         return x;
     }
+
+    /**
+     * Three axes with a little of everything, by 38 calls, nothing selected; what it answers is
+     * worked out by hand in the tests. Axis 0 ANY: 0 with 1 and 2 below it, 3 below 1; 4. Axis 1
+     * ALL: 5 with 6 below it; 7. Axis 2 NUMBER. In ORDER the documents are 3, 1, 5, 0, 2, 4.
+     */
+    static DrillCount shop() {
+        DrillCount x = axes(0, 1, 2);
+        int[] belows = {NONE, 0, 0, 1, NONE};
+        for (int below : belows) {
+            x.category(0, below);
+        }
+        x.category(1, NONE);
+        x.category(1, 5);
+        x.category(1, NONE);
+        int[] scores = {50, 80, 50, 99, 10, 80};
+        int[][] tags = {{3, 5}, {1, 2, 6}, {2, 7}, {4, 6, 7}, {}, {0, 4, 5, 7}};
+        int[] numbers = {10, 20, 20, 30};
+        for (int d = 0; d < scores.length; d++) {
+            document(x, scores[d], tags[d]);
+            if (d < numbers.length) {
+                x.number(d, 2, numbers[d]);
+            }
+        }
+        return x;
+    }
 }
